@@ -1035,7 +1035,9 @@ public final class HandFingers {
                         tryChoice(piece, event, one, two, 0);
                     }
                     for (int three = 1; notes > 2 && three <= FINGERS; three++) {
-                        tryChoice(piece, event, one, two, three);
+                        if (piece.inOrder(two, three)) {
+                            tryChoice(piece, event, one, two, three);
+                        }
                     }
                 }
             }

@@ -42,6 +42,7 @@ public final class PromisesTest {
         sure();
         mean();
         costOfTold();
+        longPieces();
         faultOfTold();
         otherHand();
         transposed();
@@ -415,6 +416,8 @@ public final class PromisesTest {
         thrown("note(1, -1, 0)", INDEX, () -> x.note(1, -1, 0));
         thrown("note(1, 0, 2)", ARGUMENT, () -> x.note(1, 0, 2));
         thrown("note(1, 0, -1)", ARGUMENT, () -> x.note(1, 0, -1));
+        x.drop(1);
+        thrown("a note of a dropped event", INDEX, () -> x.note(1, 0, 0));
     }
 
     private static void weight() {
@@ -544,6 +547,9 @@ public final class PromisesTest {
         HandFingers two = piece("hand left;weight stretch 0;weight weak 0;weight black 0;play 60 61;");
         due("the lesser finger on the lesser key", two.finger(0, 0), 2);
         due("the lesser finger on the lesser key", two.finger(0, 1), 1);
+        left.play(0, 60, 0, 0, 0);
+        left.drop(1);
+        thrown("a note of a dropped event", INDEX, () -> left.finger(1, 0));
         // The cheapest way does not begin with the cheapest step.
         HandFingers far = piece("hand right;play 60;play 62 by 1;play 64 by 2;");
         due("the thumb comes later", far.finger(0, 0), 1);
@@ -580,6 +586,23 @@ public final class PromisesTest {
         two.setRest(0, 4);
         due("none if the passage is free", two.part(1, 2), 0);
         due("which costs nothing", two.part(1, 1), 0);
+        HandFingers low = piece("hand right;weight reach 9;play 60 64 by 2 3;play 62 68 by 1 4;");
+        // 2 on 60 to 1 on 62 is a crossing, 3 on 64 to 4 on 68 is none.
+        due("one crossing", low.part(1, 2), 1);
+        HandFingers high = piece("hand right;play 61 65 by 1 3;play 60 62 67 by 1 2 4;");
+        // 3 on 65 to 4 on 67.
+        due("no crossing", high.part(1, 2), 0);
+        // From 1 on 64 back to 2 on 60 and to 3 on 62.
+        due("both ends cross", piece("hand right;play 64 by 1;play 60 62 by 2 3;").part(1, 2), 2);
+        // 1-2-3-1-2-3, and the third finger on 69 is weighed against the fourth on 70.
+        HandFingers scale = piece("hand right;play 60;play 62;play 64;play 65;play 67;play 69 by 3;play 70;");
+        int[] passages = {0, 0, 0, 5, 0, 0, 0};
+        for (int e = 0; e < 7; e++) {
+            due("the passage into " + e, scale.part(e, 1), passages[e]);
+            due("crossings into " + e, scale.part(e, 2), e == 3 ? 1 : 0);
+            due("only the last is weak", scale.part(e, 0), e == 6 ? 1 : 0);
+        }
+        due("together", scale.best(), 6);
         thrown("part(2, 0)", INDEX, () -> two.part(2, 0));
         thrown("part(-1, 7)", INDEX, () -> two.part(-1, 7));
         thrown("part(0, 3)", ARGUMENT, () -> two.part(0, 3));
@@ -672,6 +695,9 @@ public final class PromisesTest {
         // 60 64 67 by 1-3-5 alone; the single note far behind a rest may be played by four fingers.
         due("three of four", piece("hand right;play 60 64 67 rest 9;play 60;").sure(), 3);
         due("fixed", piece("hand right;play 60 by 4;play 60 by 2;").sure(), 2);
+        // 1-2 and 1-3 on 4: the first note alone; with the left hand the second one alone.
+        due("one of a chord", piece("hand right;play 60 64 by 1 0;").sure(), 1);
+        due("one of a chord", piece("hand left;play 60 64 by 0 1;").sure(), 1);
         // From 1 both 2 and 3 cost 0.
         due("the first of both", piece("hand right;play 60 by 1;play 64;").sure(), 1);
         HandFingers none = piece(NOTHING);
@@ -725,6 +751,27 @@ public final class PromisesTest {
         due("a free passage", costOfTold(piece("hand right;play 60 rest 4;play 91;"), "5 1"), 0);
         due("passages and events", costOfTold(piece("hand right;play 61 rest 1;play 60 72;"), "1 1 5"), 4 + 2);
         thrown("a told fingering is no change", STATE, () -> toldAndUndone());
+    }
+
+    private static void longPieces() {
+        HandFingers x = piece("hand left;weight repeat 0;" + "play 60 64 67;".repeat(40));
+        due("5-3-1 all the way", x.best(), 0);
+        due("told", costOfTold(x, "5 3 1 ".repeat(40)), 0);
+        due("5 and 2 are off by 1", costOfTold(x, "5 3 1 ".repeat(39) + "5 2 1"), 2);
+        due("no order", costOfTold(x, "5 3 1 ".repeat(39) + "5 1 3"), -10);
+        due("fault", faultOfTold(x, "5 3 1 ".repeat(39) + "5 1 3"), 391);
+        due("2 at the end", x.costWith(39, 1, 2), 2);
+        due("one cheapest", x.many(true), 1);
+        due("sure", x.sure(), 120);
+        due("no other uses", x.uses(3), 40);
+        // 4-2-1 on 61, 65 and 68: weak, and the thumb on a black key.
+        due("one up", x.transposed(1), 40 * 5);
+        due("reaches", x.reaches(), 40);
+        x.drop(39);
+        x.play(39, 21, 0, 0, 0);
+        due("the last one is too far away", x.best(), -1);
+        due("reaches", x.reaches(), 39);
+        due("a rest would help", x.restBehind(), 38);
     }
 
     private static int toldAndUndone() {
@@ -852,6 +899,13 @@ public final class PromisesTest {
         due("so far away", piece(NOTHING).restBehind(), 0);
         due("two that cannot be", piece("hand right;play 60 by 5;play 80 by 1;play 60 by 5;play 80 by 1;").restBehind(), -1);
         due("the second of both", piece("hand right;play 60 by 1;play 62 by 1;play 70 by 5;play 80 by 1;").restBehind(), 2);
+        HandFingers dropped = piece("hand right;play 60 by 1;play 70 by 1;");
+        due("the first of two", dropped.restBehind(), 0);
+        dropped.drop(1);
+        due("none behind the last", dropped.restBehind(), -1);
+        // All is cheap but from the event of one choice to that of five.
+        due("the second of three", piece("hand right;play 60 64 by 1 3;play 60 64 by 1 3;play 70 rest 1;").restBehind(),
+                1);
         HandFingers never = piece("hand right;weight free 10;weight ease 1;play 60 by 1;play 80 by 1;play 60 by 5;play 61 by 5;");
         due("a rest that frees nothing eases", never.restBehind(), -1);
         HandFingers ease = piece("hand right;weight free 10;weight ease 1;play 60 by 1;play 80 by 1;play 82 by 1;");
@@ -1115,6 +1169,13 @@ public final class PromisesTest {
         due("events", x.count(0), 0);
         dueSpan(x, 2, 1, 1, 5, 8);
         thrown("no more", STATE, x::undo);
+        HandFingers y = piece("hand right;play 60 by 3;");
+        due("best", y.best(), 0);
+        y.setWeight(6, 7);
+        y.play(0, 60, 0, 0, 0);
+        due("best", y.best(), 1);
+        y.undo();
+        due("best is asked anew", y.best(), 0);
         undoOfMany();
     }
 
