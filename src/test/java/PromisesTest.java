@@ -89,8 +89,12 @@ public final class PromisesTest {
     }
 
     private static void tell(HandFingers x, String text) {
-        for (int at = 0; at < text.length(); at++) {
-            x.append(0, text.charAt(at) << 8, 0, 0, 0);
+        for (int at = 0; at < text.length(); at += 20) {
+            int[] fours = new int[5];
+            for (int i = at; i < at + 20 && i < text.length(); i++) {
+                fours[(i - at) / 4] |= text.charAt(i) << 24 - 8 * ((i - at) % 4);
+            }
+            x.append(fours[0], fours[1], fours[2], fours[3], fours[4]);
         }
     }
 
