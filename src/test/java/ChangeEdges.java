@@ -172,8 +172,17 @@ final class ChangeEdges extends Edges {
         HandFingers x = piece(R + "play 60;".repeat(40));
         thrown(INDEX, () -> x.play(41, 60, 0, 0, 0));
         thrown(INDEX, () -> x.play(-1, 60, 0, 0, 0));
-        thrown(ARGUMENT, () -> x.play(40, 20, 0, 0, 0));
+        refused(x, ARGUMENT, () -> x.play(40, 20, 0, 0, 0));
+        thrown(ARGUMENT, () -> x.play(0, 109, 0, 0, 0));
+        thrown(ARGUMENT, () -> x.play(0, 60, 60, 0, 0));
+        thrown(ARGUMENT, () -> x.play(0, 60, 109, 0, 0));
+        thrown(ARGUMENT, () -> x.play(0, 60, 0, 61, 0));
+        thrown(ARGUMENT, () -> x.play(0, 60, 62, 62, 0));
         thrown(ARGUMENT, () -> x.play(0, 60, 0, 0, 10));
+        thrown(ARGUMENT, () -> x.play(0, 60, 0, 0, -1));
+        due(x.count(0), 40);
+        due(x.play(0, 60, 0, 0, 0), -10);
+        due(x.undo(), 0);
     }
 
     static void p26_aNewEventHasAllFingersWhereAnotherOneWas() {

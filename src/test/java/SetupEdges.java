@@ -252,6 +252,23 @@ final class SetupEdges extends Edges {
         due(x.errorPosition(), -1);
     }
 
+    static void p04_noneIfTheFirstCallOfAllIsToldToBeNotAllowed() {
+        HandFingers x = new HandFingers();
+        x.play(0, 60, 0, 0, 0);
+        x.let(0, 0, 1, false);
+        due(costOfTold(x, "1"), -10);
+        due(x.errorPosition(), -1);
+        due(faultOfTold(x, "2"), -10);
+        due(x.errorPosition(), -1);
+    }
+
+    static void p04_aPlayThatIsRefusedLeavesIt() {
+        HandFingers x = piece(R + "play 60;".repeat(40));
+        load(x, "hand!");
+        due(x.play(0, 60, 0, 0, 0), -10);
+        due(x.errorPosition(), 4);
+    }
+
     static void p04_noneIfAFaultIsFoundInATextWithoutAnError() {
         HandFingers x = piece(BARRED);
         faultOfTold(x, "x");
